@@ -78,6 +78,12 @@ final class Check {
         due("enter: deliver down", hub.deliver(c, DOWN), SUBACK);
     }
 
+    /** Lets c join with a long expiry and window 3, and subscribe to what the test wants to watch. */
+    static void enterAndWatch(MessageHub hub, int c, String filter, int quality) {
+        join(hub, c, 50, 3);
+        enter(hub, c, filter, quality, false);
+    }
+
     /** Delivers all that is in the lines, and what comes of it, until they are empty. */
     static void settle(MessageHub hub) {
         for (int round = 0; round < 1000; round++) {
