@@ -284,35 +284,31 @@ public final class MessageHub {
 
         /** Whether a filter matches a topic. */
         static boolean covers(long filter, long topic) {
-            long wanted = filter;
-            long rest = topic;
-            boolean joker = first(filter) == '+' || first(filter) == '#';
-            if (joker && first(topic) == '$') {
+            long opening = filter >>> 56;
+            if ((opening == '+' || opening == '#') && topic >>> 56 == '$') {
                 return false;
             }
-            for (int i = 0; i < TEXT_LENGTH && wanted != 0; i++) {
-                int letter = first(wanted);
+            long wanted = filter;
+            long rest = topic;
+            // every step takes a character of one or of both, so twice a text's length is enough
+            for (int i = 0; i < 2 * TEXT_LENGTH && wanted != 0; i++) {
+                long letter = wanted >>> 56;
+                long met = rest >>> 56;
                 if (letter == '#' || (rest == 0 && wanted == ANY_LEVELS)) {
                     return true;
                 }
-                if (letter == '+') {
-                    rest = afterLevel(rest);
-                } else if (letter == first(rest)) {
+                if (letter == '+' && met != 0 && met != '/') {
+                    rest <<= 8;
+                } else if (letter == '+') {
+                    wanted <<= 8;
+                } else if (letter == met) {
+                    wanted <<= 8;
                     rest <<= 8;
                 } else {
                     return false;
                 }
-                wanted <<= 8;
             }
             return rest == 0;
-        }
-
-        private static long afterLevel(long text) {
-            long rest = text;
-            for (int i = 0; i < TEXT_LENGTH && rest != 0 && rest >>> 56 != '/'; i++) {
-                rest <<= 8;
-            }
-            return rest;
         }
 
         private static boolean isPlain(int letter) {
@@ -327,10 +323,6 @@ public final class MessageHub {
             }
             int letter = letterAt(text, i);
             return (letter == '+' && (behind == 0 || behind == '/')) || (letter == '#' && behind == 0);
-        }
-
-        private static int first(long text) {
-            return (int) (text >>> 56);
         }
 
         /** The character at a place; 0 before the first and behind the last. */
@@ -687,11 +679,6 @@ public final class MessageHub {
         int expiry;
         private int count;
 
-        void begin() {
-            end();
-            exists = true;
-        }
-
         void end() {
             subscriptions.clear();
             queue.clear();
@@ -906,9 +893,7 @@ public final class MessageHub {
                 session.end();
             }
             send(c, new Packet(CONNACK, 0, session.exists ? 1 : 0));
-            if (!session.exists) {
-                session.begin();
-            }
+            session.exists = true;
             session.expiry = packet.value;
             for (int i = 0; i < session.underWay.size(); i++) {
                 send(c, session.underWay.get(i).repeatedPacket());

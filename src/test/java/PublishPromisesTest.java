@@ -7,9 +7,13 @@ public final class PublishPromisesTest {
         storeIsRefused();
         storeOutlivesLinks();
         newSessionStartsOver();
+        twoSentStartOver();
+        answersGoById();
         copiesOfQualityZeroAreLost();
         fullSessionRefuses();
         refusedMessageIsNotRetained();
+        refusalLetsTheNextGo();
+        noLocalNeedsNoRoom();
         onceHeldIsNotAcceptedAgain();
         retainedAreReplaced();
         Check.finish();
@@ -155,6 +159,39 @@ public final class PublishPromisesTest {
             Check.publication(6, 1, 1) + Check.MARK);
     }
 
+    private static void twoSentStartOver() {
+        MessageHub hub = new MessageHub();
+        Check.join(hub, 0, 0, 1);
+        for (int n = 1; n <= 3; n++) {
+            hub.publish(0, Check.text("a"), n, 2, false);
+        }
+        hub.crash();
+        Check.due("9: under way over the crash", hub.store(0), 3 + 8 * 2);
+        Check.join(hub, 0, 0, 1);
+        Check.line("9: both start over with the IDs they had", hub, 0, Check.UP,
+            Check.publication(1, 2, 1), Check.publication(2, 2, 2));
+    }
+
+    private static void answersGoById() {
+        MessageHub hub = new MessageHub();
+        Check.join(hub, 0, 9, 1);
+        for (int quality = 1; quality <= 2; quality++) {
+            hub.publish(0, Check.text("a"), 1, quality, false);
+            hub.publish(0, Check.text("a"), 2, quality, false);
+            hub.deliver(0, Check.UP);
+            hub.deliver(0, Check.DOWN);
+            if (quality == 2) {
+                Check.due("9: the other is still sent", hub.deliver(0, Check.UP), Check.PUBLISH);
+                Check.due("9: the first PUBREL", hub.deliver(0, Check.UP), Check.PUBREL);
+                hub.deliver(0, Check.DOWN);
+                hub.deliver(0, Check.DOWN);
+            }
+            Check.due("9: the other is not done", hub.store(0), 1 + 8);
+            Check.settle(hub);
+            Check.due("9: it is done later", hub.store(0), 0);
+        }
+    }
+
     private static void copiesOfQualityZeroAreLost() {
         MessageHub hub = new MessageHub();
         Check.enterAndWatch(hub, 1, "a", 0);
@@ -229,6 +266,46 @@ public final class PublishPromisesTest {
         Check.due("9: the seventh is not retained", hub.retained(Check.text("a")), 6);
     }
 
+    /** Session 1, without a link, has six messages for its subscription to a. */
+    private static MessageHub fullSessionOne(boolean noLocal) {
+        MessageHub hub = new MessageHub();
+        Check.join(hub, 0, 50, 1);
+        Check.join(hub, 1, 50, 1);
+        Check.enter(hub, 1, "a", 1, noLocal);
+        for (int n = 1; n <= 6; n++) {
+            hub.publish(0, Check.text("a"), n, 1, false);
+            hub.deliver(0, Check.UP);
+            hub.deliver(0, Check.DOWN);
+        }
+        Check.due("9: six", hub.session(1), 1 + 8 * 5 + 64);
+        return hub;
+    }
+
+    private static void refusalLetsTheNextGo() {
+        MessageHub hub = fullSessionOne(false);
+        hub.publish(0, Check.text("a"), 7, 2, false);
+        hub.publish(0, Check.text("b"), 8, 2, false);
+        hub.publish(0, Check.text("b"), 9, 2, false);
+        hub.deliver(0, Check.UP);
+        hub.deliver(0, Check.DOWN);
+        Check.line("9: behind the refusal the third goes, with the ID that is free", hub, 0, Check.UP,
+            Check.publication(8, 2, 2), Check.publication(9, 2, 1));
+    }
+
+    private static void noLocalNeedsNoRoom() {
+        for (boolean noLocal : new boolean[] {false, true}) {
+            MessageHub hub = fullSessionOne(noLocal);
+            hub.publish(1, Check.text("a"), 7, 1, true);
+            hub.deliver(1, Check.UP);
+            Check.due("9: client 1's own message", hub.packet(1, Check.DOWN, 1),
+                Check.plain(Check.PUBACK, 1, noLocal ? 0 : 151));
+            Check.due("9: retained unless refused", hub.retained(Check.text("a")), noLocal ? 7 : 0);
+            hub.publish(0, Check.text("a"), 8, 1, false);
+            hub.deliver(0, Check.UP);
+            Check.line("9: another's has no room", hub, 0, Check.DOWN, Check.plain(Check.PUBACK, 1, 151));
+        }
+    }
+
     private static void onceHeldIsNotAcceptedAgain() {
         MessageHub hub = new MessageHub();
         Check.join(hub, 0, 50, 1);
@@ -281,6 +358,10 @@ public final class PublishPromisesTest {
         hub.publish(0, Check.text("a"), 12, 0, false);
         hub.deliver(0, Check.UP);
         Check.due("9: without RETAIN nothing is retained", hub.retained(Check.text("a")), 11);
+        retain(hub, "a", 0);
+        Check.due("9: the first is taken away", hub.retained(Check.text("a")), 0);
+        retain(hub, "g", 12);
+        Check.due("9: there is room again", hub.retained(Check.text("g")), 12);
     }
 
     private static void retain(MessageHub hub, String topic, int value) {

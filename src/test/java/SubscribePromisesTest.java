@@ -196,5 +196,9 @@ public final class SubscribePromisesTest {
         Check.enter(hub, 0, "+", 0, false);
         Check.enter(hub, 0, "b", 0, false);
         Check.due("8: there is room again", hub.session(0), 4);
+        hub.unsubscribe(0, Check.text("a"));
+        hub.deliver(0, Check.UP);
+        Check.line("8: the first of all", hub, 0, Check.DOWN, Check.plain(Check.UNSUBACK, 0, 0));
+        Check.due("8: three are left", hub.session(0), 3);
     }
 }
