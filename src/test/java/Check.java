@@ -84,12 +84,14 @@ final class Check {
         enter(hub, c, filter, quality, false);
     }
 
-    /** Delivers all that is in the lines, and what comes of it, until they are empty. */
+    /** Delivers all that is in the lines, and what comes of it, until nothing moves; then the lines must be empty. */
     static void settle(MessageHub hub) {
-        for (int round = 0; round < 1000; round++) {
+        boolean moved = true;
+        for (int round = 0; round < 1000 && moved; round++) {
+            moved = false;
             for (int c = 0; c < 3; c++) {
-                hub.deliver(c, DOWN);
-                hub.deliver(c, UP);
+                moved |= hub.deliver(c, DOWN) > 0;
+                moved |= hub.deliver(c, UP) > 0;
             }
         }
         for (int c = 0; c < 3; c++) {
