@@ -22,6 +22,7 @@ public final class AcceptBoundariesTest {
         sixInQueueAndUnderWay();
         copiesOfOneMessageCountTogether();
         oneFullSessionRefusesForAll();
+        noLocalNeedsNoRoom();
         qualityZeroNeedsNoRoomInTheSession();
         aFullSessionWithoutCopyRefusesNothing();
         refusedQualityZeroCannotBe();
@@ -266,12 +267,16 @@ public final class AcceptBoundariesTest {
     }
 
     private static void refuses(String what, MessageHub hub, String topic, boolean want) {
+        refuses(what, hub, 0, topic, want);
+    }
+
+    /** Whether a message of client c, which has no packet down, is refused, and nothing done for it. */
+    private static void refuses(String what, MessageHub hub, int c, String topic, boolean want) {
         String before = Scene.view(hub);
-        Check.due(what + ": publish", hub.publish(0, Check.text(topic), 9, 1, true), true);
-        Scene.carry(hub, 0, Check.UP, Check.PUBLISH);
-        Check.due(what, hub.packet(0, Check.DOWN, hub.line(0, Check.DOWN) - 1),
-            Check.plain(Check.PUBACK, 1, want ? 151 : 0));
-        Scene.carry(hub, 0, Check.DOWN, Check.PUBACK);
+        Check.due(what + ": publish", hub.publish(c, Check.text(topic), 9, 1, true), true);
+        Scene.carry(hub, c, Check.UP, Check.PUBLISH);
+        Check.line(what, hub, c, Check.DOWN, Check.plain(Check.PUBACK, 1, want ? 151 : 0));
+        Scene.carry(hub, c, Check.DOWN, Check.PUBACK);
         Check.due(what + ": nothing is done", Scene.view(hub).equals(before), want);
     }
 
@@ -319,19 +324,37 @@ public final class AcceptBoundariesTest {
         refuses("one more makes six", hub, "c", false);
     }
 
-    /** 'the message is REFUSED, nothing is done', for no session */
+    /** 'the message is REFUSED, nothing is done', for no session, whichever is full */
     private static void oneFullSessionRefusesForAll() {
-        for (int full = 1; full <= 2; full++) {
-            int other = 3 - full;
+        for (int full = 0; full < 3; full++) {
+            int sender = (full + 1) % 3;
+            int other = (full + 2) % 3;
             MessageHub hub = new MessageHub();
-            Check.join(hub, 0, 50, 3);
+            Check.join(hub, sender, 50, 3);
             Check.enterAndWatch(hub, full, "x", 1);
             Check.enter(hub, full, "a", 1, false);
             Check.enterAndWatch(hub, other, "a", 2);
             Check.enter(hub, other, "#", 0, false);
-            Scene.handMany(hub, 0, "x", 6);
-            refuses("session " + full + " is full", hub, "a", true);
+            Scene.handMany(hub, sender, "x", 6);
+            refuses("session " + full + " is full", hub, sender, "a", true);
             Check.due("not retained", hub.retained(Check.text("a")), 0);
+            refuses("another topic", hub, sender, "b", false);
+        }
+    }
+
+    /** A copy that NOLOCAL spares needs no room; another's message does. */
+    private static void noLocalNeedsNoRoom() {
+        for (boolean noLocal : new boolean[] {false, true}) {
+            MessageHub hub = new MessageHub();
+            Check.join(hub, 0, 50, 3);
+            Check.join(hub, 1, 50, 1);
+            Check.enter(hub, 1, "a", 1, noLocal);
+            Scene.handMany(hub, 0, "a", 6);
+            hub.publish(1, Check.text("a"), 9, 1, true);
+            Scene.carry(hub, 1, Check.UP, Check.PUBLISH);
+            Check.due("its own", hub.packet(1, Check.DOWN, 1), Check.plain(Check.PUBACK, 1, noLocal ? 0 : 151));
+            Check.due("retained unless refused", hub.retained(Check.text("a")), noLocal ? 9 : 0);
+            refuses("another's", hub, "a", true);
         }
     }
 

@@ -12,11 +12,12 @@ public final class ClientBoundariesTest {
         pumpingNeedsAConnectedClient();
         pumpingTakesTheFirstThatWaits();
         connackZeroStartsOver();
-        connackZeroWithTwoSentAndTwoWaiting();
+        connackZeroLetsSentOnesWait();
         connackOneSendsAgain();
         connackOnePumpsBehind();
         qualityZeroIsNotAnswered();
         qualityOneComesInEachTime();
+        qualityOneAsksForNoHeldId();
         qualityTwoComesInOnce();
         pubrelIsAnsweredWithoutAHeldId();
         refusedMessageLeavesTheStore();
@@ -226,17 +227,23 @@ public final class ClientBoundariesTest {
             Check.publication(2, 2, 1), Check.publication(3, 2, 2));
     }
 
-    /** 'SENT ones wait again', where they stand */
-    private static void connackZeroWithTwoSentAndTwoWaiting() {
-        MessageHub hub = new MessageHub();
-        Check.join(hub, 0, 0, 1);
-        for (int n = 1; n <= 4; n++) {
-            keep(hub, 0, n, 1);
+    /** 'SENT ones wait again', where they stand: first and last of the store */
+    private static void connackZeroLetsSentOnesWait() {
+        for (int messages = 1; messages <= 4; messages++) {
+            MessageHub hub = new MessageHub();
+            Check.join(hub, 0, 0, 1);
+            for (int n = 1; n <= messages; n++) {
+                keep(hub, 0, n, 1);
+            }
+            hub.crash();
+            Check.join(hub, 0, 0, 1);
+            int under = Math.min(messages, 2);
+            Check.due("of " + messages, hub.store(0), messages + 8 * under);
+            Check.due("sent of " + messages, hub.line(0, Check.UP), under);
+            for (int n = 1; n <= under; n++) {
+                Check.due("anew of " + messages, hub.packet(0, Check.UP, n - 1), Check.publication(n, 1, n));
+            }
         }
-        hub.crash();
-        Check.join(hub, 0, 0, 1);
-        Check.due("two of four", hub.store(0), 4 + 8 * 2);
-        Check.line("the first two again", hub, 0, Check.UP, Check.publication(1, 1, 1), Check.publication(2, 1, 2));
     }
 
     /** 'Otherwise for each message under way, in order: a SENT one is sent again .., for a RELEASED one a PUBREL' */
@@ -302,6 +309,28 @@ public final class ClientBoundariesTest {
             hub.drop(1);
             Check.join(hub, 1, 50, 1);
         }
+    }
+
+    /** .. also when the ID is held, for a message of a session whose end the client has not heard of */
+    private static void qualityOneAsksForNoHeldId() {
+        MessageHub hub = new MessageHub();
+        Check.join(hub, 0, 9, 1);
+        Check.enterAndWatch(hub, 1, "a", 2);
+        Scene.hand(hub, 0, "a", 5, 2, false);
+        Scene.carry(hub, 1, Check.DOWN, Check.PUBLISH);
+        hub.drop(1);
+        hub.connect(1, true, 9, 1, 0);
+        Scene.carry(hub, 1, Check.UP, Check.CONNECT);
+        hub.drop(1);
+        Check.join(hub, 1, 9, 1);
+        Check.enter(hub, 1, "a", 1, false);
+        Check.due("held still", hub.store(1), 64);
+        Scene.hand(hub, 0, "a", 6, 1, false);
+        Check.line("the same ID", hub, 1, Check.DOWN, Check.publication(6, 1, 1));
+        Scene.carry(hub, 1, Check.DOWN, Check.PUBLISH);
+        Check.inbox("it comes in", hub, 1, 5, 6);
+        Check.line("PUBACK", hub, 1, Check.UP, Check.plain(Check.PUBACK, 1, 0));
+        Check.due("held as before", hub.store(1), 64);
     }
 
     /** '2: if the ID is not held, the value goes into the inbox and the ID is held; then a PUBREC' */

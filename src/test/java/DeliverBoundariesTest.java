@@ -35,20 +35,28 @@ public final class DeliverBoundariesTest {
         return hub;
     }
 
+    /** The answer is due, and nothing is done: neither a silence is broken by it nor a failure used up. */
+    private static void idle(String what, Twins.Way way, int c, boolean up, int want) {
+        for (int failure = 0; failure <= 2; failure++) {
+            int told = failure;
+            Twins.refused(what + ", failure " + told, hub -> {
+                way.go(hub);
+                hub.tick();
+                hub.fail(told);
+            }, hub -> {
+                int answer = hub.deliver(c, up);
+                Check.due(what, answer, want);
+                return answer != want;
+            });
+        }
+    }
+
     private static void stopped(String what, Twins.Way way, int c, boolean up) {
-        Twins.refused(what, way, hub -> {
-            int answer = hub.deliver(c, up);
-            Check.due(what, answer, -1);
-            return answer != -1;
-        });
+        idle(what, way, c, up, -1);
     }
 
     private static void nothing(String what, Twins.Way way, int c, boolean up) {
-        Twins.refused(what, way, hub -> {
-            int answer = hub.deliver(c, up);
-            Check.due(what, answer, 0);
-            return answer != 0;
-        });
+        idle(what, way, c, up, 0);
     }
 
     /** '0 when there is no c' */
@@ -67,7 +75,7 @@ public final class DeliverBoundariesTest {
         }
         nothing("down when opening", hub -> Scene.bring(hub, 0, Scene.OPENING), 0, Check.DOWN);
         nothing("the other way has a packet", hub -> {
-            Check.join(hub, 0, 9, 1);
+            Scene.joinKeeping(hub, 0, 9, 5);
             Scene.fillDown(hub, 0, 1);
         }, 0, Check.UP);
     }
@@ -75,11 +83,11 @@ public final class DeliverBoundariesTest {
     /** 'otherwise -1': an empty line has 0, though the other line has 12 packets */
     private static void emptyLineBeforeAFullOne() {
         nothing("down, up line 12", hub -> {
-            Check.join(hub, 0, 9, 1);
+            Scene.joinKeeping(hub, 0, 9, 5);
             Scene.fillUp(hub, 0, 12);
         }, 0, Check.DOWN);
         nothing("up, down line 12", hub -> {
-            Check.join(hub, 0, 9, 1);
+            Scene.joinKeeping(hub, 0, 9, 5);
             Scene.fillDown(hub, 0, 12);
         }, 0, Check.UP);
     }
@@ -88,7 +96,7 @@ public final class DeliverBoundariesTest {
     private static void emptyLineOfOneThatLeaves() {
         nothing("leaving", hub -> Scene.bring(hub, 0, Scene.LEAVING), 0, Check.DOWN);
         nothing("leaving, up line 12", hub -> {
-            Check.join(hub, 0, 9, 1);
+            Scene.joinKeeping(hub, 0, 9, 5);
             Scene.fillUp(hub, 0, 11);
             hub.leave(0);
         }, 0, Check.DOWN);
@@ -107,7 +115,7 @@ public final class DeliverBoundariesTest {
 
     /** Client 0 has one packet down and so many up. */
     private static void oneDown(MessageHub hub, int up) {
-        Check.join(hub, 0, 9, 1);
+        Scene.joinKeeping(hub, 0, 9, 5);
         Scene.fillDown(hub, 0, 1);
         Scene.fillUp(hub, 0, up);
     }
@@ -126,7 +134,7 @@ public final class DeliverBoundariesTest {
     }
 
     private static void oneUp(MessageHub hub, int down) {
-        Check.join(hub, 0, 9, 1);
+        Scene.joinKeeping(hub, 0, 9, 5);
         Scene.fillDown(hub, 0, down);
         Scene.fillUp(hub, 0, 1);
     }
@@ -142,10 +150,6 @@ public final class DeliverBoundariesTest {
     /** .. 12 are */
     private static void twelvePacketsDownStopUp() {
         stopped("up, down line 12", hub -> oneUp(hub, 12), 0, Check.UP);
-        stopped("up, down line 12, a failure told", hub -> {
-            oneUp(hub, 12);
-            hub.fail(1);
-        }, 0, Check.UP);
     }
 
     /** 'or more' */
@@ -163,7 +167,7 @@ public final class DeliverBoundariesTest {
     /** Both lines full: neither way goes, until the link closes. */
     private static void bothLinesFull() {
         Twins.Way full = hub -> {
-            Check.join(hub, 0, 9, 1);
+            Scene.joinKeeping(hub, 0, 9, 5);
             Scene.fillDown(hub, 0, 12);
             Scene.fillUp(hub, 0, 12);
         };
@@ -174,7 +178,7 @@ public final class DeliverBoundariesTest {
     /** 'or c is LEAVING and the line is down' */
     private static void leavingStopsDown() {
         stopped("leaving", hub -> {
-            Check.join(hub, 0, 9, 1);
+            Scene.joinKeeping(hub, 0, 9, 5);
             Scene.fillDown(hub, 0, 1);
             hub.leave(0);
         }, 0, Check.DOWN);

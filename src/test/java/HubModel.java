@@ -397,13 +397,12 @@ final class HubModel {
                 }
             }
             case 5 -> {
-                if (item != null && item.note.quality == 2) {
-                    if (pack.value == 151 && item.stage == 1) {
-                        person.store.remove(item);
-                    } else {
-                        item.stage = 2;
-                        up.add(bare(6, pack.id, 0));
-                    }
+                boolean known = item != null && item.note.quality == 2;
+                if (known && pack.value != 151) {
+                    item.stage = 2;
+                    up.add(bare(6, pack.id, 0));
+                } else if (known && item.stage == 1) {
+                    person.store.remove(item);
                 }
             }
             case 7 -> {

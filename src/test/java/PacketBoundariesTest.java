@@ -191,8 +191,18 @@ public final class PacketBoundariesTest {
         Scene.carry(hub, 0, Check.DOWN, Check.PUBLISH);
         Check.due("the client holds 1, and has 1 and 2 under way", hub.store(0), 2 + 8 * 2 + 64);
         Check.due("the broker holds 1, and has 1 under way", hub.session(0), 1 + 64 + 512);
+        Scene.carry(hub, 0, Check.UP, Check.PUBLISH);
+        Check.due("the broker goes on with 2, though it holds 1", hub.packet(0, Check.DOWN, 1), Check.publication(6, 2, 2));
         Check.settle(hub);
         Check.inbox("each once", hub, 0, 5, 6);
+        MessageHub other = new MessageHub();
+        Check.join(other, 1, 9, 1);
+        Check.enterAndWatch(other, 0, "a", 2);
+        Scene.hand(other, 1, "a", 7, 2, false);
+        Scene.carry(other, 0, Check.DOWN, Check.PUBLISH);
+        other.publish(0, Check.text("b"), 8, 1, false);
+        Check.line("the client begins with 1, though it holds 1", other, 0, Check.UP,
+            Check.plain(Check.PUBREC, 1, 0), Check.publication(8, 1, 1));
     }
 
     /** 'of the same session': each session has IDs of its own. */

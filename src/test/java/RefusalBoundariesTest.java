@@ -63,6 +63,7 @@ public final class RefusalBoundariesTest {
             if (state == Scene.LEAVING) {
                 Check.due("leave", hub.leave(0), true);
             }
+            Check.due("some silence", hub.tick(), 0);
             hub.fail(2);
         };
     }

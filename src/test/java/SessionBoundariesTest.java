@@ -199,9 +199,12 @@ public final class SessionBoundariesTest {
         fallSilent(hub, 0, 9);
         Check.due("closed", hub.state(0), 0);
         Check.due("still six", hub.session(1), 1 + 8 * 6);
+        Check.due("nor is it retained", hub.retained(Check.text("w")), 0);
         Check.join(hub, 1, 50, 3);
         Check.settle(hub);
         Check.inbox("the six", hub, 1, 1, 2, 3, 4, 5, 6);
+        Check.join(hub, 0, 9, 1);
+        Check.due("nor does it come with the next CONNECT", hub.session(1), 1);
     }
 
     /** 'and then .. that is accepted': with expiry 0 the session has ended before */

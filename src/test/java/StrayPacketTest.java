@@ -75,12 +75,16 @@ public final class StrayPacketTest {
         unchanged("PUBACK for a released one", released, before);
     }
 
-    /** .. none of this stage: PUBCOMP is for a RELEASED one */
+    /** .. none of this stage: PUBCOMP is for a RELEASED one, reason 151 for a SENT one */
     private static void clientHasOneOfAnotherStage() {
         MessageHub hub = sender();
         String before = Scene.view(hub);
         strayDown(hub, Check.PUBCOMP, 2, 0);
         unchanged("PUBCOMP for a sent one", hub, before);
+        MessageHub released = releasedSender();
+        before = Scene.view(released);
+        strayDown(released, Check.PUBREC, 2, 151);
+        unchanged("reason 151 for a released one", released, before);
     }
 
     /** .. one that waits has no ID, though it had one: SENT ones that wait again */

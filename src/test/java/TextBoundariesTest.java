@@ -191,6 +191,11 @@ public final class TextBoundariesTest {
         match("+/+/+/+", "///", true);
         match("+/+/+/+", "//", false);
         match("+/+/+/+", "////", false);
+        match("+/+/+/+", "a/b/c/dd", true);
+        match("+/+/+/d", "a/b/c/dd", false);
+        match("+/+/+/dd", "a/b/c/dd", true);
+        match("+/+/+/+", "a/b/c/d/", false);
+        match("+/+/+/#", "a/b/c/dd", true);
     }
 
     /** '# for any number of levels, none too (so a/# matches a)' */

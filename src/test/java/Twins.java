@@ -13,7 +13,7 @@ final class Twins {
         boolean on(MessageHub hub);
     }
 
-    private static final int FATES = 5;
+    private static final int FATES = 6;
 
     private Twins() {
     }
@@ -50,11 +50,16 @@ final class Twins {
             case 1 -> letTimePass(hub, log);
             case 2 -> comeAgain(hub, log);
             case 3 -> {
+                hub.fail(0);
+                comeAgain(hub, log);
+            }
+            case 4 -> {
                 hub.crash();
                 letTimePass(hub, log);
             }
             default -> {
                 hub.crash();
+                hub.fail(0);
                 comeAgain(hub, log);
             }
         }
@@ -79,7 +84,6 @@ final class Twins {
 
     /** Shows the wills of connections and of clients, subscriptions and stores; client 2 stays to hear of them. */
     private static void comeAgain(MessageHub hub, StringBuilder log) {
-        hub.fail(0);
         for (int c = 2; c >= 0; c--) {
             hub.drop(c);
             log.append(hub.connect(c, false, 5, 3, c == 2 ? 0 : 1)).append(' ');
