@@ -317,8 +317,7 @@ public final class RefusalBoundariesTest {
             for (int quality : NO_QUALITIES) {
                 Twins.refused("9: quality " + quality, way, hub -> hub.publish(0, TOPIC, 7, quality, true));
             }
-            boolean connected = state == Scene.CONNECTED;
-            if (connected) {
+            if (state == Scene.CONNECTED) {
                 Twins.taken("9: quality 0", way, hub -> hub.publish(0, TOPIC, 7, 0, true));
             }
             Twins.taken("9: quality 1", way, hub -> hub.publish(0, TOPIC, 7, 1, true));
