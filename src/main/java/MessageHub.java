@@ -632,7 +632,8 @@ public final class MessageHub {
         }
 
         private void putIntoInbox(int value) {
-            if (inboxCount < INBOX_SHOWN) {
+            // both bounds: used for long enough, the count goes round and is below 0
+            if (isWithin(inboxCount, 0, INBOX_SHOWN - 1)) {
                 inbox[inboxCount] = value;
             }
             inboxCount++;
@@ -918,13 +919,10 @@ public final class MessageHub {
         }
 
         private void receiveSubscribe(int c, Packet packet) {
-            Session session = sessions[c];
-            if (!session.enter(packet.text, packet.value, packet.mark)) {
-                send(c, new Packet(SUBACK, 0, NO_ROOM));
-                return;
-            }
-            send(c, new Packet(SUBACK, 0, packet.value));
-            for (int i = 0; i < retainedMessages.size(); i++) {
+            boolean entered = sessions[c].enter(packet.text, packet.value, packet.mark);
+            send(c, new Packet(SUBACK, 0, entered ? packet.value : NO_ROOM));
+            int due = entered ? retainedMessages.size() : 0;
+            for (int i = 0; i < due; i++) {
                 Message message = retainedMessages.get(i);
                 if (Text.covers(packet.text, message.topic)) {
                     giveRetained(c, message.copy(Math.min(message.quality, packet.value), true));

@@ -620,6 +620,7 @@ final class HubModel {
         Memory memory = memories[c];
         if (!memory.interests.containsKey(pack.filter) && memory.interests.size() >= 4) {
             send(c, bare(9, 0, 151));
+            pumpSession(c);
             return;
         }
         Interest interest = memory.interests.computeIfAbsent(pack.filter, key -> new Interest());

@@ -1,4 +1,7 @@
-/** What the document says of packets for which there is no such message: a test for each sentence (see Stray). */
+/**
+ * What the document says of packets for which there is no such message, and of pumping where there is nothing to
+ * pump: a test for each sentence (see Stray).
+ */
 public final class StrayPacketTest {
     public static void main(String[] args) {
         clientHasNoSuchMessage();
@@ -13,6 +16,7 @@ public final class StrayPacketTest {
         brokerHasOneOfAnotherStage();
         brokerPumpsAllTheSame();
         brokerReleasesAgain();
+        brokerPumpsAfterSubscribe();
         Check.finish();
     }
 
@@ -216,5 +220,27 @@ public final class StrayPacketTest {
         Check.due("a PUBREL again", hub.packet(1, Check.DOWN, sent), Check.plain(Check.PUBREL, 2, 0));
         strayUp(hub, Check.PUBCOMP, 2);
         Check.due("done once", hub.session(1), 1 + 64 * 2);
+    }
+
+    /** SUBSCRIBE: 'Then the session is pumped': also when there was no room, and when nothing is retained */
+    private static void brokerPumpsAfterSubscribe() {
+        MessageHub hub = receiver();
+        for (String filter : new String[] {"b", "c", "d"}) {
+            hub.subscribe(1, Check.text(filter), 0, false);
+            Scene.carry(hub, 1, Check.UP, Check.SUBSCRIBE);
+        }
+        Stray.widenUnpumped(hub, 1, 3);
+        Check.due("not pumped", hub.session(1), 4 + 8 + 64 * 2);
+        int sent = hub.line(1, Check.DOWN);
+        hub.subscribe(1, Check.text("e"), 0, false);
+        Scene.carry(hub, 1, Check.UP, Check.SUBSCRIBE);
+        Check.due("pumped without room", hub.session(1), 4 + 64 * 3);
+        Check.due("a SUBACK first", hub.packet(1, Check.DOWN, sent), Check.plain(Check.SUBACK, 0, 151));
+        Check.due("then a PUBLISH", hub.packet(1, Check.DOWN, sent + 1), Check.publication(3, 1, 3));
+        MessageHub roomy = receiver();
+        Stray.widenUnpumped(roomy, 1, 3);
+        roomy.subscribe(1, Check.text("e"), 0, false);
+        Scene.carry(roomy, 1, Check.UP, Check.SUBSCRIBE);
+        Check.due("pumped with room", roomy.session(1), 2 + 64 * 3);
     }
 }
